@@ -1781,7 +1781,9 @@ public final class Openbook {
         }
 
         private long netOf(int member, int contract) {
-            return (long) lowerOf(member).holds(contract) + upperOf(member).holds(contract);
+            Account lower = ledger.accountAt(2 * member);
+            Account upper = ledger.accountAt(2 * member + 1);
+            return (long) lower.holds(contract) + upper.holds(contract);
         }
 
         private int moveOf(int scenario, int contract) {
@@ -1930,16 +1932,18 @@ public final class Openbook {
             upper.cash = 0;
         }
 
-        /** Covers what the lower account lacks, layer by layer. */
+        /** Covers what the lower account lacks, layer by layer; the loss stands for that from here on. */
         private void cover(int winner) {
             Member failed = memberAt(open);
-            loss = Math.max(0, -lowerOf(open).cash);
+            Account lower = lowerOf(open);
+            loss = Math.max(0, -lower.cash);
             deepest = 0;
+            lower.cash += loss;
             for (Member member : members) {
                 member.fundAtStart = member.fund;
             }
             failed.money -= (int) give(1, failed.money);
-            sellUnits(failed);
+            lower.cash += sellUnits(failed);
             failed.fund -= (int) give(3, failed.fund);
             stake -= (int) give(4, stake);
             for (int layer = 5; layer <= 7; layer++) {
@@ -1954,24 +1958,22 @@ public final class Openbook {
                 return 0;
             }
             loss -= given;
-            lowerOf(open).cash += given;
             deepest = layer;
             return given;
         }
 
-        private void sellUnits(Member failed) {
+        /** Sells as many units to the HOUSE as are needed; tells what comes above the loss. */
+        private long sellUnits(Member failed) {
             int price = floor.bookAt(1).last;
             if (loss <= 0 || failed.units <= 0 || price <= 0) {
-                return;
+                return 0;
             }
             long needed = -Math.floorDiv(-loss, (long) price);
             int units = (int) Math.min(failed.units, needed);
             long paid = (long) units * price;
             failed.units -= units;
             ledger.accountAt(HOUSE).cash -= paid;
-            lowerOf(open).cash += paid;
-            loss = Math.max(0, loss - paid);
-            deepest = 2;
+            return paid - give(2, paid);
         }
 
         /** Whether a member that has not failed gives in a layer, by its bid against the highest one. */
