@@ -512,7 +512,6 @@ public final class Openbook {
             this.index = index;
             bought = index < CONTRACTS ? index : index - CONTRACTS;
             sold = index < CONTRACTS ? NONE : index - CONTRACTS + 1;
-            restore();
         }
 
         void restore() {
@@ -578,7 +577,6 @@ public final class Openbook {
         Account(int index) {
             this.index = index;
             member = index / 2;
-            restore();
         }
 
         void restore() {
@@ -1215,17 +1213,12 @@ public final class Openbook {
             return false;
         }
 
-        /** Begins an AUCTION; tells the tick in which it ends. */
+        /** Begins an AUCTION; tells the tick in which it ends. Its pegs wait from the WORK of the same call on. */
         int beginAuction(Book book, int ticks, int freeze) {
             book.inAuction = true;
             book.extended = false;
             book.end = now + ticks;
             book.freeze = freeze;
-            for (Order order : orders) {
-                if (order.state != GONE && order.kind == PEG && order.book == book) {
-                    order.hold();
-                }
-            }
             return book.end;
         }
 
@@ -1727,7 +1720,7 @@ public final class Openbook {
         int stake;
         // The member that failed and is not closed out yet; NONE without one.
         int open;
-        // What the accounts of a close-out lack yet, and the last layer that gave something.
+        // Of a close-out: what is not covered yet, and the last layer that gave something.
         long loss;
         int deepest;
 
@@ -1751,8 +1744,6 @@ public final class Openbook {
             haircut = 0;
             stake = 500;
             open = NONE;
-            loss = 0;
-            deepest = 0;
         }
 
         Member memberAt(int index) {
