@@ -1977,14 +1977,15 @@ public final class Openbook {
         }
 
         private void shareLayer(int layer, int winner) {
+            boolean isAssessment = layer == 7;
             for (Member member : members) {
-                member.part = givesIn(layer, member, winner)
-                        ? layer == 7 ? member.fundAtStart : member.fund : 0;
+                int most = isAssessment ? member.fundAtStart : member.fund;
+                member.part = givesIn(layer, member, winner) ? most : 0;
             }
             shareLoss(layer);
             for (int index = 0; index < MEMBERS; index++) {
                 Member member = memberAt(index);
-                if (layer == 7) {
+                if (isAssessment) {
                     lowerOf(index).cash -= member.given;
                 } else {
                     member.fund -= (int) member.given;
