@@ -1319,13 +1319,15 @@ public final class Openbook {
     private static final class Matcher {
         final Floor floor;
         final Ledger ledger;
-        final Order[] queue;
+        final Order[] queue = new Order[MOST_LIVE];
         final int[] gets = new int[MOST_LIVE];
 
         Matcher(Floor floor, Ledger ledger) {
             this.floor = floor;
             this.ledger = ledger;
-            queue = floor.orders.clone();
+            for (int place = 0; place < queue.length && place < floor.orders.length; place++) {
+                queue[place] = floor.orders[place];
+            }
         }
 
         /** What the orders of other members that a new one could meet have as rests together. */
