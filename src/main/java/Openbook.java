@@ -1345,8 +1345,7 @@ public final class Openbook {
         /** Matches an order in its open book; what is left of it stays there, unless it must not. */
         void match(Order fresh) {
             Book book = fresh.book;
-            // Its quotes can be taken away while it trades, itself among them.
-            fresh.state = BOOKED;
+            // It can be gone before it has no rest: the quotes of its account are taken away while it trades.
             for (int look = 0; look < MANY && fresh.state != GONE; look++) {
                 int price = floor.bestPrice(book, !fresh.buys, true);
                 if (price == NONE || !fresh.allows(price)) {

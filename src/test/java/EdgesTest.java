@@ -26,6 +26,13 @@ public final class EdgesTest {
         smallLosses();
         smallFunds();
         secondCloseOutWithoutLoss();
+        narrowBand();
+        lessVolumeWithLessDifference();
+        turnsInAuctions();
+        ownOrdersGoneBeforeTheSharing();
+        protectionsOfQuotesAlone();
+        bestFromTheLogAlone();
+        greatPositions();
         check.end();
     }
 
@@ -424,5 +431,126 @@ public final class EdgesTest {
         x.fail(1);
         x.bid(3, 9999);
         check.is("no loss", x.closeOut(), 0);
+    }
+
+    private static void narrowBand() {
+        check.part("a band of 1");
+        Openbook x = new Openbook();
+        x.setBand(0, 1);
+        x.limit(0, 0, 101, -1, 0, 0);
+        x.limit(0, 0, 102, -1, 0, 0);
+        x.limit(2, 0, 102, 2, 0, 0);
+        lots(x, 1);
+        check.is("an AUCTION begins", x.endOf(0), 5);
+    }
+
+    private static void lessVolumeWithLessDifference() {
+        check.part("prices of AUCTIONs: most before least");
+        Openbook x = new Openbook();
+        x.auction(0, 1, 0, 0);
+        x.limit(0, 0, 100, 7, 0, 0);
+        x.limit(2, 0, 100, -5, 0, 0);
+        x.limit(0, 0, 105, 3, 0, 0);
+        check.is("price", x.indicated(0, false), 100);
+        check.is("quantity", x.indicated(0, true), 5);
+        Openbook y = new Openbook();
+        y.auction(0, 1, 0, 0);
+        y.limit(0, 0, 105, 3, 0, 0);
+        y.limit(0, 0, 100, 7, 0, 0);
+        y.limit(2, 0, 100, -5, 0, 0);
+        check.is("price, told the other way", y.indicated(0, false), 100);
+    }
+
+    private static void turnsInAuctions() {
+        check.part("turns in AUCTIONs");
+        Openbook x = new Openbook();
+        x.auction(0, 1, 0, 0);
+        x.market(0, 0, 2);
+        x.market(2, 0, 2);
+        x.limit(4, 0, 100, -2, 0, 0);
+        x.pass(1);
+        check.is("the first one at any price", x.trade(0, 1), 0);
+        Openbook y = new Openbook();
+        y.auction(0, 2, 0, 0);
+        int gone = y.limit(6, 0, 90, 1, 0, 0);
+        y.limit(0, 0, 100, 2, 0, 0);
+        y.cancel(gone);
+        y.limit(2, 0, 100, 2, 0, 0);
+        y.market(4, 0, -2);
+        y.pass(2);
+        check.is("the first one at a limit", y.trade(0, 1), 0);
+        Openbook z = new Openbook();
+        z.auction(0, 2, 0, 0);
+        gone = z.limit(6, 0, 110, -1, 0, 0);
+        z.market(0, 0, -2);
+        z.cancel(gone);
+        z.market(2, 0, -2);
+        z.limit(4, 0, 100, 2, 0, 0);
+        z.pass(2);
+        check.is("the first one to sell", z.trade(0, 2), 0);
+    }
+
+    private static void ownOrdersGoneBeforeTheSharing() {
+        check.part("own orders are gone ahead of the sharing out");
+        Openbook x = new Openbook();
+        x.setRule(0, Openbook.TIME, 0, 2);
+        x.limit(0, 0, 100, -3, 0, 0);
+        x.limit(2, 0, 100, -5, 0, 0);
+        x.limit(1, 0, 100, 5, 0, 0);
+        lots(x, 5);
+        Openbook y = new Openbook();
+        y.setRule(0, Openbook.SHARES, 2, 2);
+        y.limit(0, 0, 100, -8, 0, 0);
+        y.limit(2, 0, 100, -4, 0, 0);
+        y.limit(4, 0, 100, -4, 0, 0);
+        y.limit(1, 0, 100, 6, 0, 0);
+        lots(y, 4, 2);
+    }
+
+    private static void protectionsOfQuotesAlone() {
+        check.part("other orders do not count for a protection");
+        Openbook x = new Openbook();
+        x.setProtection(0, 3);
+        x.quote(0, 0, 95, 105, 5);
+        x.limit(0, 0, 100, -9, 0, 0);
+        x.limit(2, 0, 100, 9, 0, 0);
+        check.is("booked", x.stateOf(0), Openbook.BOOKED);
+        x.limit(2, 0, 105, 2, 0, 0);
+        check.is("two of the quote", x.stateOf(0), Openbook.BOOKED);
+        x.limit(2, 0, 105, 1, 0, 0);
+        check.is("three of it", x.stateOf(0), Openbook.GONE);
+    }
+
+    private static void bestFromTheLogAlone() {
+        check.part("bestByLog without another call");
+        Openbook x = new Openbook();
+        x.limit(0, 0, 99, 1, 0, 0);
+        x.limit(0, 0, 98, 1, 0, 0);
+        x.cancel(0);
+        check.is("best", x.bestByLog(0, true), 98);
+    }
+
+    private static void greatPositions() {
+        check.part("21 convert: of each account");
+        for (int account = 0; account < 8; account++) {
+            Openbook x = new Openbook();
+            int other = (account + 1) % 8;
+            deal(x, 0, account, other, 100, 50);
+            deal(x, 0, other, (account + 2) % 8, 100, 49);
+            for (int time = 0; time < 4; time++) {
+                x.convert(0, 9, 1);
+            }
+            check.is("position", x.position(account, 0), 328050);
+            check.state("above the most", x, () -> x.convert(0, 4, 1));
+            x.convert(0, 3, 1);
+            check.is("just below", x.position(account, 0), 984150);
+            Openbook y = new Openbook();
+            deal(y, 0, other, account, 100, 50);
+            deal(y, 0, (account + 2) % 8, other, 100, 49);
+            for (int time = 0; time < 4; time++) {
+                y.convert(0, 9, 1);
+            }
+            check.state("below the least", y, () -> y.convert(0, 4, 1));
+        }
     }
 }
