@@ -72,6 +72,14 @@ public final class RestsAndTurnsTest {
             z.limit(4, 0, 100, -side * 4, 0, NONE);
             // 4 of 5: none, 1 and 1; then one each by turns.
             lots(z, 0, 1, 2, 1);
+            Openbook v = new Openbook();
+            v.setRule(0, Openbook.SHARES, 1, 0);
+            v.iceberg(0, 0, 100, side * 9, 1);
+            v.limit(2, 0, 100, side * 2, 0, 0);
+            v.limit(1, 0, 100, side * 2, 0, 0);
+            v.limit(4, 0, 100, -side * 4, 0, NONE);
+            // The top of 1; then 3 of 4: 1 and 1; the last one to the first that shows yet.
+            lots(v, 0, 1, 2, 1);
             Openbook w = new Openbook();
             w.setRule(0, Openbook.SHARES, 0, 0);
             w.iceberg(0, 0, 100, side * 9, 1);
