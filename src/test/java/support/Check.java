@@ -4,6 +4,10 @@ final class Check {
         long answer();
     }
 
+    interface On {
+        long answer(Openbook x);
+    }
+
     private final String name;
     private String part = "";
     private int done;
@@ -29,6 +33,16 @@ final class Check {
         done++;
         if (!got.equals(due)) {
             tell(what + "\n    is  " + got + "\n    due " + due);
+        }
+    }
+
+    /** The call must not throw. */
+    void answers(String what, Openbook x, On call) {
+        done++;
+        try {
+            call.answer(x);
+        } catch (RuntimeException e) {
+            tell(what + " threw " + e.getClass().getName());
         }
     }
 
